@@ -38,7 +38,7 @@ final class Check {
         }
     }
 
-    /** Rows as "key=value;" adds each by a call of row. */
+    /** A new object with these rows. */
     static SpilledGroups withRows(int... keysAndValues) {
         SpilledGroups x = new SpilledGroups();
         for (int i = 0; i + 1 < keysAndValues.length; i += 2) {

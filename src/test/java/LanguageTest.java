@@ -1,0 +1,56 @@
+import java.io.IOException;
+import java.nio.file.Files;
+import java.nio.file.Path;
+import java.util.regex.Matcher;
+import java.util.regex.Pattern;
+
+/** The rules of LANGUAGE.md that can be seen in the text of the class. */
+public final class LanguageTest {
+    private static final String[] FORBIDDEN = {
+        "\\b(throw|throws|try|catch|synchronized|assert|package|protected|volatile|native|enum|record|var)\\b",
+        "->", "::", "@", "\\bnew\\s+\\w+\\s*(<[^>]*>)?\\s*\\([^()]*\\)\\s*\\{", "Exact\\b", "\\b(equals|hashCode|toString)\\s*\\(",
+        "\\b(System\\.(?!arraycopy)|Thread|Random|Runtime|Object|HashMap|Scanner)\\b",
+        "\\bwhile\\s*\\(\\s*true\\s*\\)", "for\\s*\\(\\s*;\\s*;\\s*\\)", "static\\s*\\{",
+    };
+
+    public static void main(String[] args) throws IOException {
+        String source = Files.readString(Path.of(System.getProperty("project.root", "."), "src/main/java/SpilledGroups.java"));
+        String code = source.replaceAll("(?s)/\\*.*?\\*/", "").replaceAll("//[^\n]*", "").replaceAll("'.'", "0");
+        for (String forbidden : FORBIDDEN) {
+            Matcher found = Pattern.compile(forbidden).matcher(code);
+            Check.that(!found.find(), "the class holds " + forbidden);
+        }
+        Check.that(source.chars().allMatch(c -> c >= 32 && c < 127 || c == '\n'), "a sign is not of the first 127");
+        Matcher imports = Pattern.compile("import\\s+([\\w.]+)").matcher(code);
+        while (imports.find()) {
+            Check.that(imports.group(1).equals("java.util.Arrays"), "it imports " + imports.group(1));
+        }
+        Check.due("public members and class", count(code, "\\bpublic\\b"), 1 + 4 + 1 + 20);
+        Check.that(count(code, "\\bclass\\b") <= 12, "more than twelve classes");
+        Check.that(!Pattern.compile("private static (?!final)(?!\\w+ \\w+\\()").matcher(code).find(), "a static field is not final");
+        methodLengths(code);
+        Check.end();
+    }
+
+    private static int count(String code, String what) {
+        Matcher found = Pattern.compile(what).matcher(code);
+        int count = 0;
+        while (found.find()) {
+            count++;
+        }
+        return count;
+    }
+
+    private static void methodLengths(String code) {
+        Matcher head = Pattern.compile("(?m)^( {4}| {8})(?! |if|for|while|switch|return)[\\w\\[\\] ]+\\(([^)]*)\\) \\{$").matcher(code);
+        int methods = 0;
+        while (head.find()) {
+            methods++;
+            int end = code.indexOf("\n" + head.group(1) + "}", head.end());
+            long lines = code.substring(head.start(), end).lines().count();
+            Check.that(lines <= 60, head.group() + " has " + lines + " lines");
+            Check.that(head.group(2).split(",").length <= 7, head.group() + " has too many parameters");
+        }
+        Check.that(methods > 40, "only " + methods + " methods were seen");
+    }
+}
