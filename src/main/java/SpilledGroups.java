@@ -134,7 +134,8 @@ public final class SpilledGroups {
     // ---- passes, spills
 
     public int passOf(int level, int prefix, int what) {
-        if (isOutside(level, 0, HASH_BITS - 1) || isOutside(prefix, 0, MOST_HASH) || isOutside(what, 0, Passes.AHEAD)) {
+        if (isOutside(level, 0, HASH_BITS - 1) || isOutside(prefix, 0, MOST_HASH)
+            || isOutside(what, 0, Passes.AHEAD)) {
             return INVALID_ARGUMENT;
         }
         int pass = passesNow().find(level, prefix);
@@ -347,7 +348,7 @@ public final class SpilledGroups {
     }
 
     private int firstPart(int hash) {
-        return hash >> HASH_BITS - now.setting(BITS);
+        return hash >> (HASH_BITS - now.setting(BITS));
     }
 
     private int rowsInPart(int part) {
@@ -521,7 +522,7 @@ public final class SpilledGroups {
         }
 
         int hashOf(int row) {
-            return keyOf(row) * setting(FACTOR) + HASH_START & MOST_HASH;
+            return (keyOf(row) * setting(FACTOR) + HASH_START) & MOST_HASH;
         }
 
         void addRow(int key, int value) {
@@ -677,7 +678,7 @@ public final class SpilledGroups {
         /** The groups in the memory, in the order of their keys. */
         private final Table memory;
         private final Table parts;
-        /** The items of the first pass, behind them those of its files, behind these those of the files of its pass .. */
+        /** The rows, behind them the files of the first pass, behind these the files of a pass of its own .. */
         private final Table items;
         private int beyond;
         private int limit;
@@ -697,12 +698,11 @@ public final class SpilledGroups {
 
         void forget() {
             limit = 0;
-            bits = 0;
         }
 
         /** Does all passes, if those that stand are not of these settings. */
         void run(int limit, int bits) {
-            if (bits < 1 || this.limit == limit && this.bits == bits) {
+            if (bits < 1 || (this.limit == limit && this.bits == bits)) {
                 return;
             }
             this.limit = limit;
@@ -712,7 +712,6 @@ public final class SpilledGroups {
             passes.shorten(0);
             spills.shorten(0);
             order.shorten(0);
-            memory.shorten(0);
             ends.reset(groups.facts.length());
             items.copyFrom(groups.ofRows);
             runPass(0, 0, 0);
@@ -763,8 +762,8 @@ public final class SpilledGroups {
 
         private void runFiles(int level, int prefix, int spilled, int start) {
             for (int part = 0; part < 1 << bits; part++) {
-                if ((spilled >> part & 1) == 1) {
-                    runPass(level + 1, prefix << bits | part, start);
+                if (((spilled >> part) & 1) == 1) {
+                    runPass(level + 1, (prefix << bits) | part, start);
                 }
             }
         }
@@ -842,7 +841,7 @@ public final class SpilledGroups {
         }
 
         private boolean isSpilled(int pass, int part) {
-            return (passes.at(pass, SPILLED) >> part & 1) == 1;
+            return ((passes.at(pass, SPILLED) >> part) & 1) == 1;
         }
 
         private boolean isHeld(int group) {
@@ -851,12 +850,12 @@ public final class SpilledGroups {
         }
 
         private int prefixOf(int group, int level) {
-            return groups.facts.at(group, Groups.HASH) >> HASH_BITS - level * bits;
+            return groups.facts.at(group, Groups.HASH) >> (HASH_BITS - level * bits);
         }
 
         private int partOf(int group, int level) {
-            int prefixBehind = groups.facts.at(group, Groups.HASH) >> HASH_BITS - (level + 1) * bits;
-            return prefixBehind & (1 << bits) - 1;
+            int prefixBehind = groups.facts.at(group, Groups.HASH) >> (HASH_BITS - (level + 1) * bits);
+            return prefixBehind & ((1 << bits) - 1);
         }
     }
 

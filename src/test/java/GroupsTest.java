@@ -28,6 +28,9 @@ public final class GroupsTest {
         Check.due("sum", y.groupOf(0, 2), -999);
         Check.due("least", y.groupOf(0, 3), -999);
         Check.due("greatest", y.groupOf(0, 4), 999);
+        SpilledGroups z = Check.withRows(8, 5, 8, -3, 8, 4);
+        Check.due("least of later rows", z.groupOf(0, 3), -3);
+        Check.due("greatest of the first row", z.groupOf(0, 4), 5);
     }
 
     private static void promise7GroupOfSettings() {

@@ -12,6 +12,7 @@ public final class PassesTest {
         promise10SpillOfWrong();
         promise11Total();
         promise11TotalBeyond();
+        promise11TotalOfMostPasses();
         promise11TotalWrong();
         Check.end();
     }
@@ -122,6 +123,36 @@ public final class PassesTest {
         dueTotals(x, 2, 16, 15, 30, 30, 15, 2, 1);
         x.set(0, 2);
         dueTotals(x, 2, 1, 0, 0, 0, 0, 2, 0);
+    }
+
+    /** 50 pairs of keys, spread over the first six bits of the hash, each pair alike but for the last bit. */
+    private static void promise11TotalOfMostPasses() {
+        SpilledGroups x = new SpilledGroups();
+        x.set(0, 1);
+        x.set(1, 1);
+        x.set(2, 15745);
+        for (int pair = 0; pair < 50; pair++) {
+            int key = keyWithEvenHashFrom(pair * 64 / 50 * 1024);
+            x.row(key, 0);
+            x.row(key + 641, 0);
+        }
+        // 63 passes on the levels 0 to 5, 50 on each of the levels 6 to 15; every row goes down to the level 15.
+        dueTotals(x, 100, 563, 562, 1500, 1500, 15, 2, 50);
+        int last = x.rowOf(99, 2) / 2;
+        duePass(x, 15, last, 2, 2, 0, 0, 2, 562);
+        dueSpill(x, 561, 14, last / 2, last % 2, 1, 2);
+        Check.due("groups", x.skewed(2), 50);
+    }
+
+    /** As 15745 * 641 is 1 modulo 65536, a key that is 641 more has a hash that is 1 more. */
+    private static int keyWithEvenHashFrom(int hash) {
+        for (int h = hash; h < hash + 1024; h += 2) {
+            int key = Math.floorMod((h - 7919) * 641, 65536);
+            if (key + 641 <= 9999) {
+                return key;
+            }
+        }
+        throw new IllegalStateException("no key has a hash from " + hash);
     }
 
     private static void promise11TotalWrong() {

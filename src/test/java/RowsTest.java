@@ -77,6 +77,12 @@ public final class RowsTest {
         Check.due("drop(1) again", x.drop(1), 1);
         Check.due("drop(0)", x.drop(0), 0);
         Check.due("drop(0) of none", x.drop(0), SpilledGroups.NOT_POSSIBLE);
+        SpilledGroups y = Check.withRows(0, 0, 1, 1, 2, 2, 3, 3, 4, 4, 5, 5);
+        y.drop(1);
+        for (int row = 1; row < 5; row++) {
+            Check.due("key of " + row, y.rowOf(row, 0), row + 1);
+            Check.due("value of " + row, y.rowOf(row, 1), row + 1);
+        }
     }
 
     private static void promise4Clear() {
