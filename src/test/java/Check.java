@@ -1,7 +1,13 @@
+import java.lang.reflect.InvocationTargetException;
+import java.lang.reflect.Method;
+import java.util.Arrays;
+import java.util.Comparator;
+
 /** Compares answers with those that are due and ends a test. */
 final class Check {
     private static int compared = 0;
     private static int wrong = 0;
+    private static String sentence = "";
 
     private Check() {
     }
@@ -9,14 +15,14 @@ final class Check {
     static void due(String call, long got, long want) {
         compared++;
         if (got != want) {
-            fail(call + " answered " + got + ", due is " + want);
+            fail(sentence + call + " answered " + got + ", due is " + want);
         }
     }
 
     static void that(boolean holds, String what) {
         compared++;
         if (!holds) {
-            fail(what);
+            fail(sentence + what);
         }
     }
 
@@ -25,6 +31,37 @@ final class Check {
         if (wrong <= 20) {
             System.out.println(what);
         }
+    }
+
+    /** Several answers of one kind: each call's name has its number behind it. */
+    static void dueAll(String call, int[] got, int... want) {
+        due(call + ": how many", got.length, want.length);
+        for (int i = 0; i < Math.min(got.length, want.length); i++) {
+            due(call + ", number " + i, got[i], want[i]);
+        }
+    }
+
+    /** Runs every method of a test that takes nothing, so that none can be forgotten; each is one sentence's test. */
+    static void all(Class<?> test) {
+        Method[] methods = test.getDeclaredMethods();
+        Arrays.sort(methods, Comparator.comparing(Method::getName));
+        for (Method method : methods) {
+            if (method.getParameterCount() == 0 && method.getReturnType() == void.class) {
+                run(method);
+            }
+        }
+        sentence = "";
+    }
+
+    private static void run(Method method) {
+        sentence = method.getName() + ": ";
+        int before = compared;
+        try {
+            method.invoke(null);
+        } catch (InvocationTargetException | IllegalAccessException e) {
+            fail(sentence + "it threw " + (e.getCause() == null ? e : e.getCause()));
+        }
+        that(compared > before, "nothing was compared");
     }
 
     static void end() {

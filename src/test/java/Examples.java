@@ -32,4 +32,39 @@ final class Examples {
         }
         return x;
     }
+
+    /** The key that has this hash, 0x1EEF to 0x45FE, by the factor 1: by 4 bits each sign of the hash is a part. */
+    static int key(int hash) {
+        return hash - 7919;
+    }
+
+    /** Rows with the value 1 whose keys have these hashes, with a limit, and 4 bits. */
+    static SpilledGroups byHash(int limit, int... hashes) {
+        SpilledGroups x = new SpilledGroups();
+        x.set(0, limit);
+        x.set(1, 4);
+        x.set(2, 1);
+        for (int hash : hashes) {
+            x.row(key(hash), 1);
+        }
+        return x;
+    }
+
+    /** The keys of the least and the greatest hashes by the factor 12243. */
+    static final int HASH_0 = 267;
+    static final int HASH_1 = 358;
+    static final int HASH_65534 = 85;
+    static final int HASH_65535 = 176;
+
+    /** A row for each key, with room for one group, and the factor 12243. */
+    static SpilledGroups atTheEnds(int bits, int... keys) {
+        SpilledGroups x = new SpilledGroups();
+        x.set(0, 1);
+        x.set(1, bits);
+        x.set(2, 12243);
+        for (int key : keys) {
+            x.row(key, 1);
+        }
+        return x;
+    }
 }
