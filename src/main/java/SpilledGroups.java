@@ -29,7 +29,6 @@ public final class SpilledGroups {
 
     private final State now;
     private final History history;
-    private final Groups groups;
     private final Passes passes;
     private final Text text;
     private boolean groupsAreOld;
@@ -37,8 +36,7 @@ public final class SpilledGroups {
     public SpilledGroups() {
         now = new State();
         history = new History();
-        groups = new Groups();
-        passes = new Passes(groups);
+        passes = new Passes();
         text = new Text();
         groupsAreOld = true;
     }
@@ -111,11 +109,12 @@ public final class SpilledGroups {
         if (index < 0 || isOutside(what, 0, 7)) {
             return INVALID_ARGUMENT;
         }
-        if (index >= groupsNow().facts.length()) {
+        Table facts = groupsNow().facts;
+        if (index >= facts.length()) {
             return NOT_FOUND;
         }
         if (what <= Groups.GREATEST) {
-            return groups.facts.at(index, what);
+            return facts.at(index, what);
         }
         return passesNow().ends.at(index, what - Groups.GREATEST - 1);
     }
@@ -124,11 +123,11 @@ public final class SpilledGroups {
         if (place < 0) {
             return INVALID_ARGUMENT;
         }
-        Table order = passesNow().order;
-        if (place >= order.length()) {
+        Passes run = passesNow();
+        if (place >= run.order.length()) {
             return NOT_FOUND;
         }
-        return groups.facts.at(order.at(place, 0), Groups.KEY);
+        return run.groups.facts.at(run.order.at(place, 0), Groups.KEY);
     }
 
     // ---- passes, spills
@@ -328,11 +327,11 @@ public final class SpilledGroups {
 
     private Groups groupsNow() {
         if (groupsAreOld) {
-            groups.gather(now);
+            passes.groups.gather(now);
             passes.forget();
             groupsAreOld = false;
         }
-        return groups;
+        return passes.groups;
     }
 
     private Passes passesNow() {
@@ -685,8 +684,8 @@ public final class SpilledGroups {
         private int bits;
         private int lastLevel;
 
-        Passes(Groups groups) {
-            this.groups = groups;
+        Passes() {
+            groups = new Groups();
             passes = new Table(MOST_PASSES, PASS_COLUMNS);
             spills = new Table(MOST_PASSES - 1, SPILL_COLUMNS);
             ends = new Table(MOST_ROWS, END_COLUMNS);

@@ -1,6 +1,9 @@
 import java.io.IOException;
+import java.lang.reflect.Method;
 import java.nio.file.Files;
 import java.nio.file.Path;
+import java.util.Set;
+import java.util.TreeSet;
 import java.util.regex.Matcher;
 import java.util.regex.Pattern;
 
@@ -29,6 +32,8 @@ public final class LanguageTest {
         Check.that(count(code, "\\bclass\\b") <= 12, "more than twelve classes");
         Check.that(!Pattern.compile("private static (?!final)(?!\\w+ \\w+\\()").matcher(code).find(), "a static field is not final");
         methodLengths(code);
+        handsOutNothing(code);
+        privateNames(code);
         Check.end();
     }
 
@@ -39,6 +44,33 @@ public final class LanguageTest {
             count++;
         }
         return count;
+    }
+
+    /** All objects of the class are made in constructors: none may be given the object that is made, or a field of it. */
+    private static void handsOutNothing(String code) {
+        Matcher made = Pattern.compile("\\bnew\\s+[A-Z]\\w*\\(([^()]*)\\)").matcher(code);
+        int objects = 0;
+        while (made.find()) {
+            objects++;
+            Check.that(!Pattern.compile("\\b[a-z]").matcher(made.group(1)).find(), made.group() + " is given something of its maker");
+        }
+        Check.that(objects > 10, "only " + objects + " objects were seen");
+        Check.due("this, handed out", count(code, "\\bthis\\s*[,)]|(=|return)\\s*this\\s*;"), 0);
+    }
+
+    /** No private method, of the classes inside either, bears the name of a public one. */
+    private static void privateNames(String code) {
+        Set<String> faceNames = new TreeSet<>();
+        for (Method method : SpilledGroups.class.getMethods()) {
+            faceNames.add(method.getName());
+        }
+        Matcher method = Pattern.compile("\\bprivate (?:static )?[\\w\\[\\]]+ (\\w+)\\(").matcher(code);
+        int seen = 0;
+        while (method.find()) {
+            seen++;
+            Check.that(!faceNames.contains(method.group(1)), "a private method is named " + method.group(1));
+        }
+        Check.that(seen > 20, "only " + seen + " private methods were seen");
     }
 
     private static void methodLengths(String code) {
